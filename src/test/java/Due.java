@@ -1,51 +1,71 @@
 /** Compares answers with what is due, and prints those that differ. */
 final class Due {
-    static final int HEAVY = -1001;
-    static final int NOTHING = -1002;
-    static final int STRAY = -1003;
-
+    private String sentence = "";
     private int wrong;
     private int asked;
+    private int sentences;
+    private int askedBefore;
+
+    /** From here on the answers belong to this sentence of the document. */
+    void sentence(String told) {
+        noteEmptySentence();
+        sentence = "[" + told + "] ";
+        sentences++;
+        askedBefore = asked;
+    }
+
+    private void noteEmptySentence() {
+        if (sentences > 0 && asked == askedBefore) {
+            wrong++;
+            System.out.println(sentence + "is not tested");
+        }
+    }
 
     void same(String call, long got, long want) {
         asked++;
         if (got != want) {
             wrong++;
-            System.out.println(call + " answered " + got + ", due is " + want);
+            System.out.println(sentence + call + " answered " + got + ", due is " + want);
+        }
+    }
+
+    void same(String call, String got, String want) {
+        asked++;
+        if (!got.equals(want)) {
+            wrong++;
+            System.out.println(sentence + call + " left\n  " + got + "\n, due is\n  " + want);
         }
     }
 
     /** The rules that were done latest, the latest one first. */
-    void traced(String call, PileHeirs yard, int... rules) {
+    void traced(String call, Yard yard, int... rules) {
         for (int i = 0; i < rules.length; i++) {
             same(call + ", then trace(" + i + ")", yard.trace(i), rules[i]);
         }
     }
 
+    /** The rules that were done since there were so many, in the order in which they began. */
+    void done(String call, Yard yard, int before, int... rules) {
+        same(call + ": how many rules", yard.count(2) - before, rules.length);
+        for (int i = 0; i < rules.length; i++) {
+            same(call + ": rule " + i, yard.trace(rules.length - 1 - i), rules[i]);
+        }
+    }
+
+    /** The whole row of a pile, the lowest first, and nothing above it. */
+    void row(String call, Yard yard, int pile, int... timbers) {
+        for (int i = 0; i < timbers.length; i++) {
+            same(call + ", then at(" + pile + ", " + i + ")", yard.at(pile, i), timbers[i]);
+        }
+        same(call + ", then at above the row", yard.at(pile, timbers.length), PileHeirs.UNKNOWN);
+    }
+
     void end(String name) {
-        System.out.println(name + ": " + asked + " answers, " + wrong + " not as due");
+        noteEmptySentence();
+        String told = sentences == 0 ? "" : sentences + " sentences, ";
+        System.out.println(name + ": " + told + asked + " answers, " + wrong + " not as due");
         if (wrong != 0 || asked == 0) {
             System.exit(1);
-        }
-    }
-
-    static int put(PileHeirs yard, int pile, int timber) {
-        try {
-            return yard.put(pile, timber);
-        } catch (UnsupportedOperationException e) {
-            return e.getClass() == UnsupportedOperationException.class ? HEAVY : STRAY;
-        }
-    }
-
-    static int take(PileHeirs yard, int pile) {
-        try {
-            return yard.take(pile);
-        } catch (NullPointerException e) {
-            // the document's exception is thrown at the face; one from deeper inside would be a fault
-            StackTraceElement[] frames = e.getStackTrace();
-            boolean atTheFace = frames.length > 0 && frames[0].getClassName().equals("PileHeirs")
-                    && frames[0].getMethodName().equals("take");
-            return atTheFace ? NOTHING : STRAY;
         }
     }
 }

@@ -195,7 +195,7 @@ final class Model {
         try {
             return act(p, PUT, p.kind, timber);
         } catch (Heavy e) {
-            return Due.HEAVY;
+            return Yard.HEAVY;
         }
     }
 
@@ -207,7 +207,7 @@ final class Model {
         try {
             return act(p, TAKE, p.kind, 0);
         } catch (Nothing e) {
-            return Due.NOTHING;
+            return Yard.NOTHING;
         }
     }
 
@@ -241,7 +241,7 @@ final class Model {
             return -101;
         }
         int t = take(from);
-        if (t == -1 || t == Due.NOTHING) {
+        if (t == -1 || t == Yard.NOTHING) {
             return -1;
         }
         return put(to, t) == 1 ? t : -2 - t;

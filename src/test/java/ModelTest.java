@@ -1,15 +1,17 @@
 import java.util.Random;
 
-/** Many runs of 512 calls, made from written seeds: the class and the model answer the same. */
+/** Many runs of up to 512 calls, made from written seeds: the class and the model answer the same. */
 public final class ModelTest {
     private static final int RUNS = 2000;
-    private static final int CALLS = 512;
+    // what the dearest look at the end takes: four answers of each of 60 timbers
+    private static final int LOOK = 240;
     private static final int[] EXTREMES = {Integer.MIN_VALUE, -1, 0, 1001, 20001, Integer.MAX_VALUE};
 
+    private static final int MOST_A_STEP = 4;
     private static final Due DUE = new Due();
 
     private final Random random;
-    private final PileHeirs yard = new PileHeirs();
+    private final Yard yard = new Yard();
     private final Model model = new Model();
     private final int mostSize;
     private final int mostLimit;
@@ -25,14 +27,24 @@ public final class ModelTest {
 
     public static void main(String[] args) {
         for (int seed = 0; seed < RUNS; seed++) {
-            ModelTest test = new ModelTest(seed);
-            int call = 0;
-            while (call < CALLS) {
-                call += test.calls();
-            }
-            test.whole();
+            new ModelTest(seed).runOf(seed);
         }
         DUE.end("ModelTest");
+    }
+
+    /** One run in four spends all its calls on acts; the others keep some for a look at the end. */
+    private void runOf(int seed) {
+        int look = seed / 2 % 4;
+        int kept = look == 0 ? 0 : LOOK;
+        while (yard.callsLeft() >= kept + MOST_A_STEP) {
+            step();
+        }
+        switch (look) {
+            case 1: lookAtTrace(); break;
+            case 2: lookAtTimbers(); break;
+            case 3: lookAtPiles(); break;
+            default: break;
+        }
     }
 
     private int some(int least, int most) {
@@ -52,41 +64,39 @@ public final class ModelTest {
         DUE.same(run + call, got, want);
     }
 
-    private int calls() {
+    private void step() {
         int p = somePile();
         int q = somePile();
         int t = someTimber();
         int length = some(1, mostSize);
         switch (random.nextInt(16)) {
-            case 0: return makeTimber(length);
-            case 1: return makePile();
-            case 2: same("load " + p, yard.load(p), model.load(p)); return 1;
-            case 3: same("search " + p + " " + length, yard.search(p, length), model.search(p, length)); return 1;
-            case 4: same("free " + p, yard.free(p), model.free(p)); return 1;
-            case 5: same("full " + p, yard.full(p), model.full(p)); return 1;
-            case 6: case 7: same("move " + p + " " + q, yard.move(p, q), model.move(p, q)); return 1;
-            case 8: case 9: same("take " + p, Due.take(yard, p), model.take(p)); return 1;
-            case 10: return look(p, t);
-            default: same("put " + p + " " + t, Due.put(yard, p, t), model.put(p, t)); return 1;
+            case 0: makeTimber(length); break;
+            case 1: makePile(); break;
+            case 2: same("load " + p, yard.load(p), model.load(p)); break;
+            case 3: same("search " + p + " " + length, yard.search(p, length), model.search(p, length)); break;
+            case 4: same("free " + p, yard.free(p), model.free(p)); break;
+            case 5: same("full " + p, yard.full(p), model.full(p)); break;
+            case 6: case 7: same("move " + p + " " + q, yard.move(p, q), model.move(p, q)); break;
+            case 8: case 9: same("take " + p, yard.take(p), model.take(p)); break;
+            case 10: look(p, t); break;
+            default: same("put " + p + " " + t, yard.put(p, t), model.put(p, t)); break;
         }
     }
 
-    private int makeTimber(int length) {
+    private void makeTimber(int length) {
         int weight = some(1, mostSize);
         boolean wet = random.nextBoolean();
         same("timber", yard.timber(length, weight, wet), model.timber(length, weight, wet));
-        return 1;
     }
 
-    private int makePile() {
+    private void makePile() {
         int kind = some(0, 7);
         int cap = some(1, 12);
         int limit = some(0, mostLimit);
         same("pile", yard.pile(kind, cap, limit), model.pile(kind, cap, limit));
-        return 1;
     }
 
-    private int look(int p, int t) {
+    private void look(int p, int t) {
         int i = some(0, 12);
         int what = some(0, 5);
         int place = some(0, 205);
@@ -94,20 +104,26 @@ public final class ModelTest {
         same("of " + t + " " + what, yard.of(t, what), model.of(t, what));
         same("trace " + place, yard.trace(place), model.trace(place));
         same("count " + what, yard.count(what), model.count(what));
-        return 4;
     }
 
-    /** All that can be seen of the yard, at the end of a run. */
-    private void whole() {
+    private void lookAtTrace() {
         for (int i = -1; i < 202; i++) {
             same("end: trace " + i, yard.trace(i), model.trace(i));
         }
         for (int what = -1; what < 6; what++) {
             same("end: count " + what, yard.count(what), model.count(what));
-            for (int t = 0; t < 60; t++) {
+        }
+    }
+
+    private void lookAtTimbers() {
+        for (int t = 0; t < 60; t++) {
+            for (int what = 0; what < 4; what++) {
                 same("end: of " + t + " " + what, yard.of(t, what), model.of(t, what));
             }
         }
+    }
+
+    private void lookAtPiles() {
         for (int p = 0; p < 12; p++) {
             for (int i = -1; i < 14; i++) {
                 same("end: at " + p + " " + i, yard.at(p, i), model.at(p, i));

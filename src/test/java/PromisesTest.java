@@ -44,25 +44,22 @@ public final class PromisesTest {
     }
 
     /** A yard with one pile and dry timbers of weight 2, laid on it in turn. */
-    private static PileHeirs yardOf(int kind, int cap, int limit, int... lengths) {
-        PileHeirs x = new PileHeirs();
+    private static Yard yardOf(int kind, int cap, int limit, int... lengths) {
+        Yard x = new Yard();
         x.pile(kind, cap, limit);
         for (int i = 0; i < lengths.length; i++) {
             x.timber(lengths[i], 2, false);
-            due("kind " + kind + " put(0, " + i + ")", Due.put(x, 0, i), 1);
+            due("kind " + kind + " put(0, " + i + ")", x.put(0, i), 1);
         }
         return x;
     }
 
-    private static void row(String call, PileHeirs x, int pile, int... timbers) {
-        for (int i = 0; i < timbers.length; i++) {
-            due(call + ", then at(" + pile + ", " + i + ")", x.at(pile, i), timbers[i]);
-        }
-        due(call + ", then at above the row", x.at(pile, timbers.length), PileHeirs.UNKNOWN);
+    private static void row(String call, Yard x, int pile, int... timbers) {
+        DUE.row(call, x, pile, timbers);
     }
 
     private static void newObject() {
-        PileHeirs x = new PileHeirs();
+        Yard x = new Yard();
         for (int what = 0; what < 5; what++) {
             due("new: count(" + what + ")", x.count(what), 0);
         }
@@ -70,11 +67,11 @@ public final class PromisesTest {
         due("new: of(0, 0)", x.of(0, 0), PileHeirs.UNKNOWN);
         due("new: load(0)", x.load(0), PileHeirs.UNKNOWN);
         due("new: two objects share nothing", x.timber(1, 1, true), 0);
-        due("new: two objects share nothing", new PileHeirs().count(0), 0);
+        due("new: two objects share nothing", new Yard().count(0), 0);
     }
 
     private static void timber() {
-        PileHeirs x = new PileHeirs();
+        Yard x = new Yard();
         due("timber(1, 1, false)", x.timber(1, 1, false), 0);
         due("timber(1000, 1000, true)", x.timber(1000, 1000, true), 1);
         int[] outside = {Integer.MIN_VALUE, -1, 0, 1001, Integer.MAX_VALUE};
@@ -90,7 +87,7 @@ public final class PromisesTest {
     }
 
     private static void timberRoom() {
-        PileHeirs x = new PileHeirs();
+        Yard x = new Yard();
         for (int i = 0; i < 60; i++) {
             due("timber number " + i, x.timber(1 + i, 60 - i, i % 2 == 0), i);
         }
@@ -102,7 +99,7 @@ public final class PromisesTest {
     }
 
     private static void pile() {
-        PileHeirs x = new PileHeirs();
+        Yard x = new Yard();
         for (int kind = PLAIN; kind <= LEAN; kind++) {
             due("pile(" + kind + ", 1, 0)", x.pile(kind, 1, 0), kind);
         }
@@ -117,7 +114,7 @@ public final class PromisesTest {
     }
 
     private static void pileRoom() {
-        PileHeirs x = new PileHeirs();
+        Yard x = new Yard();
         for (int i = 0; i < 12; i++) {
             due("pile number " + i, x.pile(PLAIN, 1 + i, 0), i);
         }
@@ -129,161 +126,161 @@ public final class PromisesTest {
 
     private static void putPlain() {
         for (int kind = PLAIN; kind <= MARKED; kind++) {
-            PileHeirs x = yardOf(kind, 2, 0, 5, 9);
+            Yard x = yardOf(kind, 2, 0, 5, 9);
             row("put on kind " + kind, x, 0, 0, 1);
             x.timber(7, 7, false);
-            due("put on a full pile", Due.put(x, 0, 2), 0);
+            due("put on a full pile", x.put(0, 2), 0);
             due("put on a full pile: on the ground", x.of(2, 3), PileHeirs.NONE);
             due("put: of(1, 3)", x.of(1, 3), 0);
             row("put on a full pile", x, 0, 0, 1);
             DUE.traced("put thrice", x, 0, 0, 0, PileHeirs.UNKNOWN);
         }
         int[] twelve = {1, 2, 3, 4, 5, 6, 7, 8, 9, 10, 11, 12};
-        PileHeirs x = yardOf(PLAIN, 12, 0, twelve);
+        Yard x = yardOf(PLAIN, 12, 0, twelve);
         x.timber(1, 1, false);
-        due("put, the 13th", Due.put(x, 0, 12), 0);
+        due("put, the 13th", x.put(0, 12), 0);
     }
 
     private static void putCodes() {
-        PileHeirs x = yardOf(STRICT, 2, 2, 5);
+        Yard x = yardOf(STRICT, 2, 2, 5);
         x.timber(5, 5, false);
         for (int wrong : WRONG_NUMBERS) {
-            due("put(" + wrong + ", 1)", Due.put(x, wrong, 1), PileHeirs.UNKNOWN);
-            due("put(0, " + wrong + ")", Due.put(x, 0, wrong), PileHeirs.UNKNOWN);
-            due("put(" + wrong + ", 0), UNKNOWN before STATE", Due.put(x, wrong, 0), PileHeirs.UNKNOWN);
+            due("put(" + wrong + ", 1)", x.put(wrong, 1), PileHeirs.UNKNOWN);
+            due("put(0, " + wrong + ")", x.put(0, wrong), PileHeirs.UNKNOWN);
+            due("put(" + wrong + ", 0), UNKNOWN before STATE", x.put(wrong, 0), PileHeirs.UNKNOWN);
         }
-        due("put(0, 2), the next number", Due.put(x, 0, 2), PileHeirs.UNKNOWN);
-        due("put(1, 1), the next number", Due.put(x, 1, 1), PileHeirs.UNKNOWN);
-        due("put(0, 0), STATE before HEAVY", Due.put(x, 0, 0), PileHeirs.STATE);
+        due("put(0, 2), the next number", x.put(0, 2), PileHeirs.UNKNOWN);
+        due("put(1, 1), the next number", x.put(1, 1), PileHeirs.UNKNOWN);
+        due("put(0, 0), STATE before HEAVY", x.put(0, 0), PileHeirs.STATE);
         x.pile(PLAIN, 1, 0);
-        due("put(1, 0), it lies in another pile", Due.put(x, 1, 0), PileHeirs.STATE);
+        due("put(1, 0), it lies in another pile", x.put(1, 0), PileHeirs.STATE);
         due("put: codes are no HEAVY", x.count(3), 0);
     }
 
     private static void putSorted() {
-        PileHeirs x = yardOf(SORTED, 5, 0, 50, 20, 50, 90, 30);
+        Yard x = yardOf(SORTED, 5, 0, 50, 20, 50, 90, 30);
         row("put sorted", x, 0, 3, 0, 2, 4, 1);
         DUE.traced("put sorted", x, 0, 2, 0, 2);
         x.timber(1000, 1, false);
-        due("put sorted, full", Due.put(x, 0, 5), 0);
+        due("put sorted, full", x.put(0, 5), 0);
         row("put sorted, full", x, 0, 3, 0, 2, 4, 1);
         due("put sorted, full: on the ground", x.of(5, 3), PileHeirs.NONE);
     }
 
     private static void putStrict() {
-        PileHeirs x = yardOf(STRICT, 2, 10, 5);
+        Yard x = yardOf(STRICT, 2, 10, 5);
         x.timber(5, 9, false);
         x.timber(5, 8, false);
         x.timber(5, 1, false);
-        due("put strict, 11 of 10", Due.put(x, 0, 1), Due.HEAVY);
+        due("put strict, 11 of 10", x.put(0, 1), Yard.HEAVY);
         DUE.traced("put strict, 11 of 10", x, 20, 3);
         due("put strict, HEAVY: on the ground", x.of(1, 3), PileHeirs.NONE);
         due("put strict, HEAVY: count(3)", x.count(3), 1);
-        due("put strict, 10 of 10", Due.put(x, 0, 2), 1);
+        due("put strict, 10 of 10", x.put(0, 2), 1);
         DUE.traced("put strict, 10 of 10", x, 0, 20, 3);
         row("put strict", x, 0, 0, 2);
-        due("put strict, HEAVY before full", Due.put(x, 0, 3), Due.HEAVY);
-        PileHeirs y = yardOf(TWOFOLD, 9, 10, 5);
+        due("put strict, HEAVY before full", x.put(0, 3), Yard.HEAVY);
+        Yard y = yardOf(TWOFOLD, 9, 10, 5);
         y.timber(5, 6, false);
         y.timber(5, 7, false);
-        due("put twofold, 4 + 7 of 10", Due.put(y, 0, 2), Due.HEAVY);
+        due("put twofold, 4 + 7 of 10", y.put(0, 2), Yard.HEAVY);
         DUE.traced("put twofold, HEAVY", y, 20, 25, 3);
-        due("put twofold, 4 + 6 of 10", Due.put(y, 0, 1), 1);
+        due("put twofold, 4 + 6 of 10", y.put(0, 1), 1);
         due("put twofold: load", y.load(0), 16);
-        PileHeirs z = yardOf(LEAN, 1, 9, 5);
+        Yard z = yardOf(LEAN, 1, 9, 5);
         z.timber(5, 5, false);
-        due("put lean, full and not HEAVY", Due.put(z, 0, 1), 0);
-        PileHeirs none = new PileHeirs();
+        due("put lean, full and not HEAVY", z.put(0, 1), 0);
+        Yard none = new Yard();
         none.pile(STRICT, 1, 0);
         none.timber(1, 1, false);
-        due("put strict, limit 0", Due.put(none, 0, 0), Due.HEAVY);
+        due("put strict, limit 0", none.put(0, 0), Yard.HEAVY);
     }
 
     private static void putOpen() {
-        PileHeirs x = new PileHeirs();
+        Yard x = new Yard();
         x.pile(OPEN, 3, 0);
         x.timber(10, 7, false);
         x.timber(20, 8, false);
         x.timber(30, 8, true);
         x.timber(40, 9, false);
-        due("put open, odd", Due.put(x, 0, 0), 1);
+        due("put open, odd", x.put(0, 0), 1);
         DUE.traced("put open", x, 0, 2, 6);
         due("put open, odd: wet", x.of(0, 2), 1);
-        due("put open, even", Due.put(x, 0, 1), 1);
+        due("put open, even", x.put(0, 1), 1);
         due("put open, even: stays dry", x.of(1, 2), 0);
-        due("put open, even", Due.put(x, 0, 2), 1);
+        due("put open, even", x.put(0, 2), 1);
         due("put open, even: stays wet", x.of(2, 2), 1);
         row("put open", x, 0, 2, 1, 0);
-        due("put open, full", Due.put(x, 0, 3), 0);
+        due("put open, full", x.put(0, 3), 0);
         due("put open, full: wet all the same", x.of(3, 2), 1);
     }
 
     private static void takePlain() {
         int[] kinds = {PLAIN, MARKED, SORTED, STRICT, TWOFOLD};
         for (int kind : kinds) {
-            PileHeirs x = yardOf(kind, 3, 100, 30, 20);
-            due("take of kind " + kind, Due.take(x, 0), 1);
+            Yard x = yardOf(kind, 3, 100, 30, 20);
+            due("take of kind " + kind, x.take(0), 1);
             due("take: on the ground", x.of(1, 3), PileHeirs.NONE);
             due("take: weight stays", x.of(1, 1), 2);
             row("take", x, 0, 0);
             DUE.traced("take of kind " + kind, x, 10, 0);
-            due("take of kind " + kind, Due.take(x, 0), 0);
-            due("take of kind " + kind + ", empty", Due.take(x, 0), PileHeirs.NONE);
+            due("take of kind " + kind, x.take(0), 0);
+            due("take of kind " + kind + ", empty", x.take(0), PileHeirs.NONE);
             due("take of kind " + kind + ", empty: count(4)", x.count(4), 0);
-            due("take, then put again", Due.put(x, 0, 1), 1);
+            due("take, then put again", x.put(0, 1), 1);
         }
-        PileHeirs wet = new PileHeirs();
+        Yard wet = new Yard();
         wet.pile(SORTED, 1, 0);
         wet.timber(1, 1, true);
-        Due.put(wet, 0, 0);
-        due("take sorted, wet", Due.take(wet, 0), 0);
+        wet.put(0, 0);
+        due("take sorted, wet", wet.take(0), 0);
         due("take sorted: stays wet", wet.of(0, 2), 1);
     }
 
     private static void takeDrying() {
-        PileHeirs x = new PileHeirs();
+        Yard x = new Yard();
         x.pile(DRYING, 2, 0);
         x.timber(30, 3, false);
         x.timber(20, 3, true);
-        Due.put(x, 0, 0);
-        Due.put(x, 0, 1);
-        due("take drying, wet", Due.take(x, 0), 1);
+        x.put(0, 0);
+        x.put(0, 1);
+        due("take drying, wet", x.take(0), 1);
         DUE.traced("take drying, wet", x, 10, 0, 2, 10, 14, 0, 2);
         due("take drying, wet: dry now", x.of(1, 2), 0);
         due("take drying, wet: on the ground", x.of(1, 3), PileHeirs.NONE);
-        due("take drying, dry", Due.take(x, 0), 0);
+        due("take drying, dry", x.take(0), 0);
         DUE.traced("take drying, dry", x, 10, 14, 10, 0, 2);
-        due("take drying, empty", Due.take(x, 0), Due.NOTHING);
+        due("take drying, empty", x.take(0), Yard.NOTHING);
         DUE.traced("take drying, empty", x, 10, 14, 10, 14);
         due("take drying, empty: count(4)", x.count(4), 1);
     }
 
     private static void takeOpen() {
-        PileHeirs x = new PileHeirs();
+        Yard x = new Yard();
         x.pile(OPEN, 1, 0);
         x.timber(30, 3, false);
         x.timber(30, 4, true);
-        Due.put(x, 0, 0);
-        due("take open, odd", Due.take(x, 0), 0);
+        x.put(0, 0);
+        due("take open, odd", x.take(0), 0);
         DUE.traced("take open, odd", x, 10, 0, 2, 6, 10, 14, 0, 2, 6);
         due("take open, odd: wet again", x.of(0, 2), 1);
-        Due.put(x, 0, 1);
-        due("take open, even", Due.take(x, 0), 1);
+        x.put(0, 1);
+        due("take open, even", x.take(0), 1);
         due("take open, even: dry", x.of(1, 2), 0);
-        due("take open, empty", Due.take(x, 0), Due.NOTHING);
+        due("take open, empty", x.take(0), Yard.NOTHING);
     }
 
     private static void takeLean() {
-        PileHeirs x = yardOf(LEAN, 2, 100, 9, 9);
-        due("take lean", Due.take(x, 0), 1);
+        Yard x = yardOf(LEAN, 2, 100, 9, 9);
+        due("take lean", x.take(0), 1);
         DUE.traced("take lean", x, 10, 17);
         due("take lean: 1 less", x.of(1, 1), 1);
         due("take lean: the other stays", x.of(0, 1), 2);
-        Due.put(x, 0, 1);
-        due("take lean", Due.take(x, 0), 1);
+        x.put(0, 1);
+        due("take lean", x.take(0), 1);
         due("take lean: 1 at least", x.of(1, 1), 1);
-        due("take lean", Due.take(x, 0), 0);
-        due("take lean, empty", Due.take(x, 0), Due.NOTHING);
+        due("take lean", x.take(0), 0);
+        due("take lean, empty", x.take(0), Yard.NOTHING);
         DUE.traced("take lean, empty", x, 10, 17, 10, 17);
         due("take lean, empty: count(4)", x.count(4), 1);
     }
@@ -292,23 +289,23 @@ public final class PromisesTest {
         int[] due = {6, 6, 6, 6, 6, 12, 6, 12};
         int[][] traces = {{20}, {20}, {20}, {20}, {20}, {20, 25}, {20, 26}, {20, 25}};
         for (int kind = PLAIN; kind <= LEAN; kind++) {
-            PileHeirs x = yardOf(kind, 4, 100, 1, 2, 3);
+            Yard x = yardOf(kind, 4, 100, 1, 2, 3);
             int before = x.count(2);
             due("load of kind " + kind, x.load(0), due[kind]);
             DUE.traced("load of kind " + kind, x, traces[kind]);
             due("load of kind " + kind + ": rules", x.count(2) - before, traces[kind].length);
         }
-        PileHeirs open = yardOf(OPEN, 4, 0, 5);
+        Yard open = yardOf(OPEN, 4, 0, 5);
         open.timber(5, 3, false);
         open.timber(5, 4, true);
-        Due.put(open, 0, 1);
-        Due.put(open, 0, 2);
+        open.put(0, 1);
+        open.put(0, 2);
         due("load of an open pile, two wet", open.load(0), 29);
         due("load of an empty pile", yardOf(OPEN, 1, 0).load(0), 0);
     }
 
     private static void search() {
-        PileHeirs x = yardOf(PLAIN, 4, 0, 10, 30, 20, 30);
+        Yard x = yardOf(PLAIN, 4, 0, 10, 30, 20, 30);
         due("search(0, 1)", x.search(0, 1), 0);
         due("search(0, 10)", x.search(0, 10), 0);
         due("search(0, 11)", x.search(0, 11), 1);
@@ -327,7 +324,7 @@ public final class PromisesTest {
 
     private static void searchTwofold() {
         for (int kind = TWOFOLD; kind <= LEAN; kind += 2) {
-            PileHeirs x = yardOf(kind, 4, 100, 10, 30);
+            Yard x = yardOf(kind, 4, 100, 10, 30);
             due("search twofold(0, 11)", x.search(0, 11), 1);
             DUE.traced("search twofold, found", x, 30, 35, 0);
             due("search twofold(0, 31)", x.search(0, 31), 1);
@@ -335,96 +332,96 @@ public final class PromisesTest {
             due("search twofold(0, 61), cut", x.search(0, 61), 1);
             due("search twofold(0, 62)", x.search(0, 62), PileHeirs.NONE);
         }
-        PileHeirs empty = yardOf(TWOFOLD, 4, 100);
+        Yard empty = yardOf(TWOFOLD, 4, 100);
         due("search twofold, empty", empty.search(0, 1), PileHeirs.NONE);
         DUE.traced("search twofold, empty", empty, 30, 30, 35, PileHeirs.UNKNOWN);
     }
 
     private static void searchDrying() {
         for (int kind = DRYING; kind <= OPEN; kind += 2) {
-            PileHeirs x = new PileHeirs();
+            Yard x = new Yard();
             x.pile(kind, 3, 0);
             x.timber(50, 2, true);
             x.timber(40, 2, false);
             due("search drying, empty", x.search(0, 1), PileHeirs.NONE);
-            Due.put(x, 0, 1);
+            x.put(0, 1);
             due("search drying, dry", x.search(0, 40), 0);
             DUE.traced("search drying", x, 30, 34);
-            Due.put(x, 0, 0);
+            x.put(0, 0);
             due("search drying, wet", x.search(0, 40), PileHeirs.NONE);
             due("search drying, too long", x.search(0, 51), PileHeirs.NONE);
         }
-        PileHeirs sorted = new PileHeirs();
+        Yard sorted = new Yard();
         sorted.pile(SORTED, 1, 0);
         sorted.timber(5, 5, true);
-        Due.put(sorted, 0, 0);
+        sorted.put(0, 0);
         due("search sorted, wet", sorted.search(0, 5), 0);
     }
 
     private static void free() {
         int[] kinds = {PLAIN, MARKED, SORTED, DRYING, OPEN};
         for (int kind : kinds) {
-            PileHeirs x = yardOf(kind, 2, 0, 5);
+            Yard x = yardOf(kind, 2, 0, 5);
             due("free of kind " + kind, x.free(0), 1);
             DUE.traced("free of kind " + kind, x, 40, 0);
             x.timber(5, 5, false);
-            Due.put(x, 0, 1);
+            x.put(0, 1);
             due("free of kind " + kind + ", full", x.free(0), 0);
         }
     }
 
     private static void freeStrict() {
-        PileHeirs x = yardOf(STRICT, 5, 5, 9, 9);
+        Yard x = yardOf(STRICT, 5, 5, 9, 9);
         due("free strict, 4 of 5", x.free(0), 3);
         DUE.traced("free strict", x, 40, 20, 43, 0);
         x.timber(9, 1, false);
-        Due.put(x, 0, 2);
+        x.put(0, 2);
         due("free strict, 5 of 5", x.free(0), 0);
         DUE.traced("free strict, at the limit", x, 20, 43, 0);
-        PileHeirs y = yardOf(TWOFOLD, 5, 5, 9);
+        Yard y = yardOf(TWOFOLD, 5, 5, 9);
         due("free twofold, 4 of 5", y.free(0), 4);
         DUE.traced("free twofold", y, 40, 20, 25, 43, 0);
         y.timber(9, 1, false);
-        Due.put(y, 0, 1);
+        y.put(0, 1);
         due("free twofold, 6 of 5", y.free(0), 0);
         due("free strict, limit 0", yardOf(STRICT, 5, 0).free(0), 0);
     }
 
     private static void freeLean() {
-        PileHeirs x = yardOf(LEAN, 3, 100, 9);
+        Yard x = yardOf(LEAN, 3, 100, 9);
         due("free lean", x.free(0), 1);
         DUE.traced("free lean", x, 40, 20, 25, 43, 47, 0);
         x.timber(9, 1, false);
         x.timber(9, 1, false);
-        Due.put(x, 0, 1);
+        x.put(0, 1);
         due("free lean, one place left", x.free(0), 0);
-        due("put lean, one place left", Due.put(x, 0, 2), 1);
+        due("put lean, one place left", x.put(0, 2), 1);
         due("free lean, full: 0 at least", x.free(0), 0);
-        PileHeirs y = yardOf(LEAN, 3, 4, 9);
+        Yard y = yardOf(LEAN, 3, 4, 9);
         due("free lean, at the limit: 0 at least", y.free(0), 0);
         DUE.traced("free lean, at the limit", y, 20, 25, 43, 47, 0);
     }
 
     private static void full() {
-        PileHeirs x = yardOf(PLAIN, 2, 0, 5);
+        Yard x = yardOf(PLAIN, 2, 0, 5);
         due("full plain, not", x.full(0), 0);
         x.timber(5, 5, false);
-        Due.put(x, 0, 1);
+        x.put(0, 1);
         due("full plain", x.full(0), 1);
         DUE.traced("full plain is no rule", x, 0, 0, PileHeirs.UNKNOWN);
-        PileHeirs y = yardOf(MARKED, 2, 0, 5);
+        Yard y = yardOf(MARKED, 2, 0, 5);
         due("full marked, not", y.full(0), 0);
         DUE.traced("full marked", y, 40, 0, PileHeirs.UNKNOWN);
-        PileHeirs z = yardOf(STRICT, 2, 2, 5);
+        Yard z = yardOf(STRICT, 2, 2, 5);
         due("full strict, at the limit", z.full(0), 1);
         DUE.traced("full strict", z, 20, 43, 0);
-        PileHeirs lean = yardOf(LEAN, 2, 100, 5);
+        Yard lean = yardOf(LEAN, 2, 100, 5);
         due("full lean, one place left", lean.full(0), 1);
         DUE.traced("full lean", lean, 40, 20, 25, 43, 47);
     }
 
     private static void move() {
-        PileHeirs x = yardOf(PLAIN, 3, 0, 10, 20);
+        Yard x = yardOf(PLAIN, 3, 0, 10, 20);
         x.pile(SORTED, 3, 0);
         due("move(0, 1)", x.move(0, 1), 1);
         DUE.traced("move(0, 1)", x, 0, 2, 10);
@@ -451,7 +448,7 @@ public final class PromisesTest {
     }
 
     private static void moveRefused() {
-        PileHeirs x = yardOf(PLAIN, 3, 0, 10, 20, 30);
+        Yard x = yardOf(PLAIN, 3, 0, 10, 20, 30);
         x.pile(STRICT, 3, 1);
         due("move(0, 1), HEAVY", x.move(0, 1), -4);
         due("move(0, 1), HEAVY: on the ground", x.of(2, 3), PileHeirs.NONE);
@@ -462,19 +459,19 @@ public final class PromisesTest {
         due("move(0, 2), full", x.move(0, 2), -2);
         due("move(0, 2), full: on the ground", x.of(0, 3), PileHeirs.NONE);
         due("move(0, 2), full: count(3)", x.count(3), 1);
-        PileHeirs lean = yardOf(LEAN, 3, 100, 10);
+        Yard lean = yardOf(LEAN, 3, 100, 10);
         due("move lean, on the same", lean.move(0, 0), 0);
         due("move lean: 1 less", lean.of(0, 1), 1);
-        PileHeirs tight = new PileHeirs();
+        Yard tight = new Yard();
         tight.pile(PLAIN, 1, 0);
         tight.pile(TWOFOLD, 2, 4);
         tight.timber(1, 4, false);
-        Due.put(tight, 1, 0);
+        tight.put(1, 0);
         due("move off and on again", tight.move(1, 1), 0);
     }
 
     private static void at() {
-        PileHeirs x = yardOf(PLAIN, 12, 0, 10, 20);
+        Yard x = yardOf(PLAIN, 12, 0, 10, 20);
         due("at(0, 0)", x.at(0, 0), 0);
         due("at(0, 1)", x.at(0, 1), 1);
         due("at(0, 2)", x.at(0, 2), PileHeirs.UNKNOWN);
@@ -483,18 +480,18 @@ public final class PromisesTest {
             due("at(0, " + wrong + ")", x.at(0, wrong), PileHeirs.UNKNOWN);
             due("at(" + wrong + ", 0)", x.at(wrong, 0), PileHeirs.UNKNOWN);
         }
-        Due.take(x, 0);
+        x.take(0);
         due("at(0, 1) after take", x.at(0, 1), PileHeirs.UNKNOWN);
         due("at does no rule", x.count(2), 3);
     }
 
     private static void of() {
-        PileHeirs x = new PileHeirs();
+        Yard x = new Yard();
         x.pile(PLAIN, 1, 0);
         x.pile(PLAIN, 1, 0);
         x.timber(11, 22, true);
         x.timber(33, 44, false);
-        Due.put(x, 1, 0);
+        x.put(1, 0);
         int[][] due = {{11, 22, 1, 1}, {33, 44, 0, PileHeirs.NONE}};
         for (int timber = 0; timber < 2; timber++) {
             for (int what = 0; what < 4; what++) {
@@ -511,7 +508,7 @@ public final class PromisesTest {
     }
 
     private static void trace() {
-        PileHeirs x = new PileHeirs();
+        Yard x = new Yard();
         x.pile(PLAIN, 1, 0);
         for (int i = 0; i < 199; i++) {
             x.load(0);
@@ -540,14 +537,14 @@ public final class PromisesTest {
     }
 
     private static void count() {
-        PileHeirs x = yardOf(LEAN, 3, 6, 9, 9);
+        Yard x = yardOf(LEAN, 3, 6, 9, 9);
         x.pile(DRYING, 1, 0);
         x.timber(9, 9, false);
-        Due.put(x, 0, 2);
-        Due.put(x, 0, 2);
-        Due.take(x, 1);
+        x.put(0, 2);
+        x.put(0, 2);
+        x.take(1);
         x.move(1, 0);
-        Due.take(x, 1);
+        x.take(1);
         due("count(0)", x.count(0), 3);
         due("count(1)", x.count(1), 2);
         due("count(2)", x.count(2), 4 + 4 + 3 + 3 + 2 + 2 + 2);
@@ -560,11 +557,11 @@ public final class PromisesTest {
     }
 
     private static void unknownPiles() {
-        PileHeirs x = yardOf(LEAN, 3, 5, 9);
+        Yard x = yardOf(LEAN, 3, 5, 9);
         int before = x.count(2);
         int[] wrongs = {Integer.MIN_VALUE, -1, 1, 11, 12, Integer.MAX_VALUE};
         for (int wrong : wrongs) {
-            due("take(" + wrong + ")", Due.take(x, wrong), PileHeirs.UNKNOWN);
+            due("take(" + wrong + ")", x.take(wrong), PileHeirs.UNKNOWN);
             due("load(" + wrong + ")", x.load(wrong), PileHeirs.UNKNOWN);
             due("search(" + wrong + ", 1)", x.search(wrong, 1), PileHeirs.UNKNOWN);
             due("free(" + wrong + ")", x.free(wrong), PileHeirs.UNKNOWN);
@@ -575,12 +572,12 @@ public final class PromisesTest {
     }
 
     private static void nothingChangesByCodes() {
-        PileHeirs x = yardOf(OPEN, 2, 0, 9);
+        Yard x = yardOf(OPEN, 2, 0, 9);
         x.timber(9, 9, false);
         int before = x.count(2);
-        due("put(7, 1)", Due.put(x, 7, 1), PileHeirs.UNKNOWN);
+        due("put(7, 1)", x.put(7, 1), PileHeirs.UNKNOWN);
         due("put(7, 1): stays dry", x.of(1, 2), 0);
-        due("put(0, 0)", Due.put(x, 0, 0), PileHeirs.STATE);
+        due("put(0, 0)", x.put(0, 0), PileHeirs.STATE);
         row("put(0, 0)", x, 0, 0);
         due("codes: no rule is done", x.count(2), before);
     }
